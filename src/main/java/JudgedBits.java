@@ -11,15 +11,13 @@ public final class JudgedBits {
     /* Every change and every "what would be" runs here first, so that an error leaves "now" as it was. */
     private final Source trial;
     private final History history;
-    private final Text text;
     private final Orders orders;
 
     public JudgedBits() {
         now = new Source();
         trial = new Source();
         history = new History();
-        text = new Text();
-        orders = new Orders(text);
+        orders = new Orders();
     }
 
     // ---- the source
@@ -147,7 +145,7 @@ public final class JudgedBits {
             return history.many;
         }
         if (what == 9) {
-            return text.length;
+            return orders.text.length;
         }
         return now.tally.tell(what);
     }
@@ -159,13 +157,11 @@ public final class JudgedBits {
     // ---- texts
 
     public int type(int character) {
-        return text.append(character);
+        return orders.text.append(character);
     }
 
     public int clearText() {
-        int before = text.length;
-        text.length = 0;
-        return before;
+        return orders.text.clear();
     }
 
     public int fault(int what) {
@@ -756,6 +752,12 @@ public final class JudgedBits {
             return length;
         }
 
+        int clear() {
+            int before = length;
+            length = 0;
+            return before;
+        }
+
         char at(int position) {
             return isWithin(position, 0, Math.min(length, characters.length) - 1) ? characters[position] : END;
         }
@@ -772,13 +774,13 @@ public final class JudgedBits {
         int done = 0;
         int reason = 0;
         int cause = 0;
-        char kind = Text.END;
+        int kind = Text.END;
         int number = 0;
         int first = 0;
         int second = 0;
 
-        Orders(Text text) {
-            this.text = text;
+        Orders() {
+            text = new Text();
         }
 
         boolean areDoneOn(Source source) {
