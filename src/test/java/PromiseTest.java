@@ -1,82 +1,30 @@
+import java.util.List;
+
 // For each promise of the document calls with the answers that it asks for, worked out by hand.
-public final class PromiseTest {
-  static final int BAD = -1000001, CANNOT = -1000002, FULL = -1000003, NONE = -1000004;
-  static final int LOW = Integer.MIN_VALUE, HIGH = Integer.MAX_VALUE;
-  private static int checks = 0, wrong = 0, promise = 0;
-
+public final class PromiseTest extends Checks {
   public static void main(String[] args) {
-    promise = 1; newObject();
-    promise = 2; ring();
-    promise = 3; noise();
-    promise = 4; sample(); rings(); runTest(); shareTest(); startUp(); pairs();
-    promise = 5; draw();
-    promise = 6; restart();
-    promise = 7; set();
-    promise = 8; ringOf();
-    promise = 9; source();
-    promise = 10; raw();
-    promise = 11; stored();
-    promise = 12; would();
-    promise = 13; takes();
-    promise = 14; bestPeriod();
-    promise = 15; share();
-    promise = 16; count();
-    promise = 17; undo();
-    promise = 18; type();
-    promise = 19; clearText();
-    promise = 20; fault();
-    promise = 21; play();
-    System.out.println(checks + " answers looked at, " + wrong + " not as due");
-    if (wrong != 0) System.exit(1);
-  }
-
-  static void due(String call, long got, long want) {
-    checks++;
-    if (got != want) {
-      wrong++;
-      System.out.println("promise " + promise + ": " + call + " answered " + got + ", due is " + want);
-    }
-  }
-
-  // ---- objects in a state that is known
-
-  // With the step 20 and no jitter the ring 0 (period 20) stays high and the ring 1 (period 40) alternates: 1, 0, 1, 0.
-  static JudgedBits alternating() {
-    JudgedBits x = new JudgedBits();
-    x.ring(0, 20, 0);
-    x.ring(1, 40, 0);
-    x.set(0, 20);
-    return x;
-  }
-
-  // Behind its start up; its window is empty, its run is 1, its latest raw bit is 0.
-  static JudgedBits running() {
-    JudgedBits x = alternating();
-    x.sample(64);
-    return x;
-  }
-
-  // From the phase 0 the step 20 takes the ring 1 to low (raw bit 1), the step 40 leaves it high (raw bit 0).
-  static int feed(JudgedBits x, String bits) {
-    int stored = 0;
-    for (char bit : bits.toCharArray()) {
-      x.ring(1, 40, 0);
-      x.set(0, bit == '1' ? 20 : 40);
-      stored += x.sample(1);
-    }
-    return stored;
-  }
-
-  static JudgedBits inAlarm() {
-    JudgedBits x = running();
-    x.set(2, 2);
-    feed(x, "111");
-    return x;
-  }
-
-  static void write(JudgedBits x, String text) {
-    x.clearText();
-    for (char c : text.toCharArray()) x.type(c);
+    promise(1); newObject();
+    promise(2); ring();
+    promise(3); noise();
+    promise(4); sample(); rings(); runTest(); shareTest(); startUp(); pairs();
+    promise(5); draw();
+    promise(6); restart();
+    promise(7); set();
+    promise(8); ringOf();
+    promise(9); source();
+    promise(10); raw();
+    promise(11); stored();
+    promise(12); would();
+    promise(13); takes();
+    promise(14); bestPeriod();
+    promise(15); share();
+    promise(16); count();
+    promise(17); undo();
+    promise(18); type();
+    promise(19); clearText();
+    promise(20); fault();
+    promise(21); play();
+    finish();
   }
 
   // ---- the promises
@@ -569,7 +517,6 @@ public final class PromiseTest {
     due("takes(1) in alarm with one", x.takes(1), 0);
     due("takes(2) in alarm with one", x.takes(2), NONE);
 
-
     due("takes(25) of one in 78", slow().takes(25), 1950);
     due("takes(26) of one in 78", slow().takes(26), NONE);
     x = slow();
@@ -577,17 +524,6 @@ public final class PromiseTest {
     due("takes(26) with the sample 2001", x.takes(26), NONE);
     x.sample(1);
     due("takes(26) with the sample 2000", x.takes(26), 2000);
-  }
-
-  // Raw bits in runs of 39; each second change of them is within a pair, so a bit is stored each 78 samples.
-  static JudgedBits slow() {
-    JudgedBits x = running();
-    x.set(2, 40);
-    x.set(3, 0);
-    x.set(0, 10);
-    x.ring(0, 10, 0);
-    x.ring(1, 780, 0);
-    return x;
   }
 
   // Locked up to the period 60; with the period p beyond it the raw bits come in runs of p / 20.
@@ -720,11 +656,11 @@ public final class PromiseTest {
       x = running();
       feed(x, "10011");
       write(x, "s7;");
-      int[] before = picture(x);
+      List<Integer> before = picture(x, 20);
       due(names[w] + " is a change", change(x, w) >= 0 ? 1 : 0, 1);
       due("undo() of " + names[w], x.undo(), 3);
-      int[] after = picture(x);
-      for (int i = 0; i < before.length; i++) due("number " + i + " behind undo() of " + names[w], after[i], before[i]);
+      List<Integer> after = picture(x, 20);
+      for (int i = 0; i < before.size(); i++) due("number " + i + " behind undo() of " + names[w], after.get(i), before.get(i));
       due("the text stays", x.count(9), 3);
     }
     x.clearText();
@@ -742,20 +678,6 @@ public final class PromiseTest {
       case 5: return x.set(3, 2);
       default: return x.play();
     }
-  }
-
-  // What can be seen of the source, but for the history and the text.
-  static int[] picture(JudgedBits x) {
-    int[] seen = new int[60];
-    int i = 0;
-    for (int w = 0; w < 10; w++) seen[i++] = x.source(w);
-    for (int w = 0; w < 8; w++) seen[i++] = x.ringOf(w / 4, w % 4);
-    for (int w = 0; w < 8; w++) seen[i++] = x.count(w);
-    for (int w = 20; w < 24; w++) seen[i++] = x.count(w);
-    for (int w = 0; w < 20; w++) seen[i++] = x.raw(w);
-    for (int w = 0; w < 4; w++) seen[i++] = x.stored(w);
-    seen[i++] = x.share();
-    return seen;
   }
 
   static void type() {
