@@ -749,6 +749,7 @@ public final class PromiseTest extends Checks {
     faultIs(x, "r0,20", 0, 1, 5);
     faultIs(x, "r0,20;", 0, 1, 5);
     faultIs(x, "r0,1000,3;", 0, 1, 6);
+    x = new JudgedBits();
     faultIs(x, "r0,20,", 0, 1, 6);
     faultIs(x, "r0,20,;", 0, 1, 6);
     faultIs(x, "r0,20,3", 0, 1, 7);
@@ -758,7 +759,8 @@ public final class PromiseTest extends Checks {
     faultIs(x, "n;s1;s", 5, 1, 1);
     faultIs(x, "n;;", 2, 1, 0);
     String[] wrong = {"s0;", "s301;", "s999;", "d0;", "d25;", "d000;", "x0;", "x000;", "r2,20,3;", "r0,9,3;", "r0,20,100;", "r1,000,0;", "r999,999,999;"};
-    for (String text : wrong) faultIs(x, text, 0, 2, BAD);
+    for (String text : wrong) faultIs(new JudgedBits(), text, 0, 2, BAD);
+    x = new JudgedBits();
     faultIs(x, "d1;", 0, 2, CANNOT);
     faultIs(x, "d1;q", 0, 2, CANNOT);
     faultIs(x, "q;d1;", 0, 1, 0);
