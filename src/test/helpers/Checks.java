@@ -27,6 +27,13 @@ class Checks {
     if (!standsInDocument(heading, words)) fault("there is no such sentence");
   }
 
+  /** The checks behind it are of this rule of LANGUAGE.md. */
+  static void rule(int number) {
+    endSentence();
+    place = "LANGUAGE.md, rule " + number;
+    sentences++;
+  }
+
   // A sentence that no check is of would be as good as none.
   private static void endSentence() {
     if (sentences > 0 && checks == checksBefore) fault("no check is of it");
@@ -42,7 +49,7 @@ class Checks {
     due(told(name, with), call(x, name, with), want);
   }
 
-  private static void fault(String told) {
+  static void fault(String told) {
     wrong++;
     System.out.println(place + ": " + told);
   }

@@ -253,6 +253,13 @@ public final class CallsEdgeTest extends Checks {
       due(y, NONE, "stored", 0);
       due(y, CANNOT, "draw", 1);
     }
+    x = withFullStore();
+    x.restart();
+    x.ring(1, 40, 0);
+    x.sample(64);
+    feed(x, "01" + "01" + "10");
+    due("three bits behind the new start up", x.source(6), 3);
+    due("nothing of the bits before in a draw", x.draw(3), 1);
     sentence(heading, "Rings, noise and settings stay, so do the raw bits that are kept.");
     x = new JudgedBits();
     x.ring(0, 999, 99);
@@ -501,6 +508,15 @@ public final class CallsEdgeTest extends Checks {
       due(x, 2, "would", many, 1);
       due(x, 0, "would", many, 2);
     }
+    // the single sample that ends a pair, that loses its bit, that ends the start up
+    due(fed(running(), "1"), 0, "would", 0, 0);
+    due(fed(running(), "1"), 1, "would", 1, 0);
+    due(full(), 0, "would", 0, 2);
+    due(full(), 1, "would", 1, 2);
+    x = alternating();
+    x.sample(63);
+    due(x, 0, "would", 0, 1);
+    due(x, 1, "would", 1, 1);
     // a ring that stands still: like bits up to the setting 2 and one more
     x = alternating();
     x.ring(1, 20, 0);
@@ -739,5 +755,10 @@ public final class CallsEdgeTest extends Checks {
     due(x, 2, "source", 9);
     due(x, 0, "undo");
     due(x, 1, "source", 9);
+    x = fed(running(), "110");
+    for (int n = 0; n < 3; n++) x.undo();
+    due("the run of 11 behind undo()", x.source(3), 2);
+    feed(x, "1");
+    due("it goes on", x.source(3), 3);
   }
 }

@@ -17,6 +17,8 @@ public final class ChangesEdgeTest extends Checks {
     wrongArgumentComesFirst();
     errorsChangeNothing();
     refusedPlayChangesNothing();
+    tellingLeavesNoTrace();
+    everyCallReturns();
     finish();
   }
 
@@ -424,5 +426,66 @@ public final class ChangesEdgeTest extends Checks {
       due("the history as before the refused calls", x.undo(), left);
       due("its noise", x.source(9), left + 1);
     }
+  }
+
+  // What is told by trying leaves nothing behind that a later call could meet.
+  static void tellingLeavesNoTrace() {
+    sentence("Not promised", "Nothing is promised beyond the answers and state changes described above");
+    String[] telling = {"would", "takes", "bestPeriod", "fault", "play"};
+    int[][] with = {{300, 0}, {64}, {1}, {0}, {}};
+    for (int number = 0; number < STATES; number++) {
+      for (int n = 0; n < telling.length; n++) {
+        if (telling[n].equals("play") && state(number).fault(0) == NONE) continue;
+        for (int change = 0; change < CHANGES.length; change++) {
+          leavesNoTrace(number, telling[n], with[n], CHANGES[change], TAKEN[change]);
+        }
+        leavesNoTrace(number, telling[n], with[n], "undo");
+        leavesNoTrace(number, telling[n], with[n], "would", 1, 0);
+        leavesNoTrace(number, telling[n], with[n], "takes", 64);
+      }
+    }
+  }
+
+  static void leavesNoTrace(int number, String telling, int[] with, String name, int... then) {
+    JudgedBits x = state(number), y = state(number);
+    call(x, telling, with);
+    String told = told(name, then) + " behind " + told(telling, with) + " in the state " + number;
+    due(told, call(x, name, then), call(y, name, then));
+    due(told + " leads to the same state", picture(x, 64).equals(picture(y, 64)) ? 1 : 0, 1);
+  }
+
+  // ---- no call throws
+
+  static final String[] CALLS = {"ring", "noise", "sample", "draw", "restart", "set", "ringOf", "source", "raw", "stored", "would", "takes", "bestPeriod",
+      "share", "count", "undo", "type", "clearText", "fault", "play"};
+  static final int[] ARGUMENTS = {3, 1, 1, 1, 0, 2, 2, 1, 1, 1, 2, 1, 1, 0, 1, 0, 1, 0, 1, 0};
+  static final int[] VALUES = {LOW, LOW + 1, -65537, -65, -1, 0, 1, 2, 10, 23, 60, 64, 300, 999, 65536, 1 << 30, HIGH - 1, HIGH};
+
+  static void everyCallReturns() {
+    rule(7);
+    for (int number = 0; number < STATES; number++) {
+      for (int n = 0; n < CALLS.length; n++) {
+        int[][] values = new int[ARGUMENTS[n]][];
+        Arrays.fill(values, VALUES);
+        int[][] none = new int[ARGUMENTS[n]][];
+        Arrays.fill(none, new int[] {HIGH, LOW});
+        List<int[]> rows = ARGUMENTS[n] == 0 ? List.of(new int[0]) : all(values, none);
+        JudgedBits x = state(number);
+        for (int row = 0; row < rows.size(); row++) {
+          if (row % 400 == 0) x = state(number);
+          returns(x, number, CALLS[n], rows.get(row));
+        }
+      }
+    }
+  }
+
+  static void returns(JudgedBits x, int number, String name, int... with) {
+    int answer = NONE - 1;
+    try {
+      answer = call(x, name, with);
+    } catch (RuntimeException e) {
+      fault(told(name, with) + " in the state " + number + " threw " + e);
+    }
+    due(told(name, with) + " in the state " + number + " answers a number or an error", answer >= 0 || answer >= NONE && answer <= BAD ? 1 : 0, 1);
   }
 }
