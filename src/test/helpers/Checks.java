@@ -16,7 +16,12 @@ class Checks {
   // ---- what is due
 
   static void promise(int number) {
-    place = "promise " + number;
+    part("promise " + number);
+  }
+
+  /** The checks behind it are of this part of the project. */
+  static void part(String name) {
+    place = name;
   }
 
   /** The checks behind it are of this sentence, which stands in the document under this heading. */
